@@ -929,7 +929,7 @@ public final class SlicedRows {
             }
         }
 
-        /** From every place that can be reached a question can be ended, so the first letter that fits nowhere decides. */
+        /** From every place that is reached a question can be ended, so the first letter that does not fit decides. */
         int goodLetters() {
             place = AT_FACTOR;
             openBrackets = 0;
