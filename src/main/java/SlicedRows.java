@@ -91,7 +91,7 @@ public final class SlicedRows {
         if (!table.hasRow(line) || !isColumn(column)) return UNKNOWN;
         if (!columns[column].has(v)) return OUTSIDE;
         int was = table.number(line, column);
-        table.change(line, Table.altered(table.rowAt(line), column, v));
+        table.changeNumber(line, column, v);
         return was;
     }
 
@@ -103,7 +103,7 @@ public final class SlicedRows {
 
     public int get(int line, int column) {
         if (line < 0 || line >= LINES || !isColumn(column)) return UNKNOWN;
-        return table.hasRow(line) ? table.number(line, column) : NONE;
+        return table.number(line, column);
     }
 
     // ---- designs
@@ -406,7 +406,7 @@ public final class SlicedRows {
 
     /** In which vectors of a column a line's bit is 1: in none, if the line is empty. */
     private long slicesAt(int line, int column) {
-        return table.hasRow(line) ? columns[column].slicesOf(table.number(line, column)) : 0L;
+        return columns[column].slicesOf(table.number(line, column));
     }
 
     private int vectorsRead(int question) {
@@ -510,12 +510,9 @@ public final class SlicedRows {
             return line >= 0 && line < LINES && rows[line] != EMPTY;
         }
 
-        int rowAt(int line) {
-            return rows[line];
-        }
-
+        /** NONE, if the line has no row. */
         int number(int line, int column) {
-            return (rows[line] >> (BITS_OF_NUMBER * column)) & NUMBER_MASK;
+            return hasRow(line) ? (rows[line] >> (BITS_OF_NUMBER * column)) & NUMBER_MASK : NONE;
         }
 
         int rowCount() {
@@ -532,7 +529,7 @@ public final class SlicedRows {
 
         int leastEmpty() {
             for (int line = 0; line < LINES; line++) {
-                if (rows[line] == EMPTY) return line;
+                if (!hasRow(line)) return line;
             }
             return NONE;
         }
@@ -541,7 +538,7 @@ public final class SlicedRows {
         long linesWithRow() {
             long lines = 0L;
             for (int line = 0; line < LINES; line++) {
-                if (rows[line] != EMPTY) lines |= 1L << line;
+                if (hasRow(line)) lines |= 1L << line;
             }
             return lines;
         }
@@ -549,7 +546,7 @@ public final class SlicedRows {
         long linesWith(int column, int v) {
             long lines = 0L;
             for (int line = 0; line < LINES; line++) {
-                if (rows[line] != EMPTY && number(line, column) == v) lines |= 1L << line;
+                if (hasRow(line) && number(line, column) == v) lines |= 1L << line;
             }
             return lines;
         }
@@ -557,7 +554,7 @@ public final class SlicedRows {
         long linesBelow(int column, int v) {
             long lines = 0L;
             for (int line = 0; line < LINES; line++) {
-                if (rows[line] != EMPTY && number(line, column) < v) lines |= 1L << line;
+                if (hasRow(line) && number(line, column) < v) lines |= 1L << line;
             }
             return lines;
         }
@@ -569,6 +566,10 @@ public final class SlicedRows {
             nextChange = nextChange + 1 < MOST_CHANGES ? nextChange + 1 : 0;
             changes = Math.min(changes + 1, MOST_CHANGES);
             put(line, row);
+        }
+
+        void changeNumber(int line, int column, int v) {
+            if (hasRow(line)) change(line, altered(rows[line], column, v));
         }
 
         boolean undoLatest() {

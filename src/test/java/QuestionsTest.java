@@ -172,6 +172,11 @@ public final class QuestionsTest {
     leftBy(x, "a=0|!(b=4|!(d>6))", 0, 3, 4, 5);
     leftBy(x, "a=0|a=1&b=0", 0);
     leftBy(x, "a=1&b=0|a=0", 0);
+    SlicedRows y = sixRows();
+    leftBy(y, "!a<0", 0, 1, 2, 3, 4, 5);
+    leftBy(y, "a<0&c=1");
+    leftBy(y, "c=0|a<0", 2, 3);
+    leftBy(y, "b<0|a<0");
     x.drop(0);
     due.is("no ROW", x.leaves(6), 0);
     due.is("no ROW", x.leaves(2), Due.lines(1, 2, 3, 5));
