@@ -3,6 +3,8 @@ public final class AllDesignsTest {
   private static final int[] WHATS = {0, 1, 2, 3, 10, 11, 12, 13, 14};
   private static final int[] ROOMS = {1, 2, 3, 4, 5, 6, 7, 8, 9, 10, 12, 15, 16, 20, 31, 32, 33, 62, 64};
   private static final int[][] WEIGHTS = {{1, 1}, {0, 0}, {9, 1}, {1, 0}, {0, 1}};
+  /** An object is used for 512 calls at most. */
+  private static final int DESIGNS_OF_AN_OBJECT = 250;
   private static final Due due = new Due("AllDesignsTest");
 
   public static void main(String[] args) {
@@ -16,9 +18,14 @@ public final class AllDesignsTest {
   }
 
   private static void costs(int size) {
-    SlicedRows x = new SlicedRows();
-    x.size(1, size);
+    SlicedRows x = null;
+    int done = 0;
     for (Model.Priced priced : Model.allDesigns(size)) {
+      if (done % DESIGNS_OF_AN_OBJECT == 0) {
+        x = new SlicedRows();
+        x.size(1, size);
+      }
+      done++;
       long told = 0;
       long place = 1;
       for (int base : priced.design().bases()) {

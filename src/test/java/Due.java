@@ -20,6 +20,10 @@ final class Due {
     is(what, held ? 1L : 0L, 1L);
   }
 
+  int looked() {
+    return looked;
+  }
+
   void end() {
     System.out.println(test + ": " + looked + " looked at, " + wrong + " wrong");
     if (wrong != 0 || looked == 0) System.exit(1);

@@ -6,6 +6,8 @@ import java.util.Random;
 public final class ModelTest {
   private static final int RUNS = 240;
   private static final int CALLS = 512;
+  /** A text of 60 letters comes by eight calls and is blanked, looked at and asked by three. */
+  private static final int CALLS_OF_A_TEXT = 11;
   private static final int[] WILD = {-1, 0, 1, 4, 5, 16, 32, 33, 63, 64, 65, 99, 100, 101, 255, 256, Integer.MAX_VALUE, Integer.MIN_VALUE};
   private static final int[] ORDERS = {27, 30, 39, 45, 54, 57, 75, 78, 99, 108, 114, 120, 135, 141, 147, 156, 177, 180, 198, 201, 210, 216, 225, 228};
   private static final String[] PARTS = {"!", "(", ")", "&", "|", "a", "b", "c", "d", "<", "=", ">", "0", "1", "2", "9", "e", " "};
@@ -36,17 +38,13 @@ public final class ModelTest {
 
   private boolean run(int run) {
     boolean sizesFirst = chance.nextBoolean();
-    for (int i = 0; i < CALLS; i++) {
-      if (sizesFirst && i < 4) size(i, 2 + chance.nextInt(31));
-      else one();
-      made.add(call + " " + got);
-      if (got != want) {
-        System.out.println("run " + run + ", call " + i + ": " + call + " answered " + got + ", due is " + want);
-        for (int j = Math.max(0, made.size() - 12); j < made.size(); j++) System.out.println("    " + made.get(j));
-        return false;
-      }
-    }
-    return x.digest() == m.digest();
+    for (int column = 0; sizesFirst && column < 4; column++) size(column, 2 + chance.nextInt(31));
+    while (got == want && made.size() < CALLS - 1) one();
+    if (got == want) told("digest()", x.digest(), m.digest());
+    if (got == want) return true;
+    System.out.println("run " + run + ", call " + made.size() + ": " + call + " answered " + got + ", due is " + want);
+    for (int j = Math.max(0, made.size() - 12); j < made.size(); j++) System.out.println("    " + made.get(j));
+    return false;
   }
 
   private int near(int n) {
@@ -69,10 +67,13 @@ public final class ModelTest {
     return column >= 0 && column < 4 ? near(m.about(column, 3)) : near(16);
   }
 
+  /** The first answers that are unlike stay told. */
   private void told(String said, long fromClass, long fromModel) {
+    if (got != want) return;
     call = said;
     got = fromClass;
     want = fromModel;
+    made.add(call + " " + got);
   }
 
   private void size(int column, int c) {
@@ -160,7 +161,7 @@ public final class ModelTest {
       case 1: told("blank()", x.blank(), m.blank()); break;
       case 2: told("good()", x.good(), m.good()); break;
       case 3: told("ask()", x.ask(), m.ask()); break;
-      default: wholeText(); break;
+      default: if (made.size() + CALLS_OF_A_TEXT < CALLS) wholeText(); break;
     }
   }
 
