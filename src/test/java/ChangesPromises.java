@@ -10,7 +10,6 @@ final class ChangesPromises {
 
   void look() {
     changes();
-    changesInARing();
     marks();
     whatStays();
     refusals();
@@ -62,26 +61,25 @@ final class ChangesPromises {
     z.due(5).undo();
     int[] row = {1, 2, 3, 4};
     for (int column = 0; column <= 3; column++) z.due(row[column]).get(0, column);
+    changesUndoneAndMadeAnew();
   }
 
-  private void changesInARing() {
+  /** COLUMN 0 of the ROW counts the CHANGES, modulo 16. */
+  private void changesUndoneAndMadeAnew() {
     Run x = s.start();
     x.row(0, 0, 0, 0);
-    // column 0 and 1 of the ROW count the CHANGES
-    for (int i = 1; i <= 130; i++) count(x, i);
+    for (int i = 1; i <= 130; i++) x.set(0, 0, i % 16);
     x.due(100).count(3);
     for (int i = 129; i >= 60; i--) undone(x, i, i - 30);
-    for (int i = 61; i <= 120; i++) count(x, i);
+    for (int i = 61; i <= 120; i++) x.set(0, 0, i % 16);
     x.due(90).count(3);
     for (int i = 119; i >= 100; i--) undone(x, i, i - 30);
-    x.due(70).count(3);
+    for (int i = 101; i <= 140; i++) x.set(0, 0, i % 16);
+    x.due(100).count(3);
+    for (int i = 139; i >= 130; i--) undone(x, i, i - 40);
   }
 
-  private void count(Run x, int i) {
-    x.set(0, 0, i % 16);
-  }
-
-  private void undone(Run x, int i, int kept) {
+  private static void undone(Run x, int i, int kept) {
     x.due(kept).undo();
     if (i % 5 == 0) x.due(i % 16).get(0, 0);
   }
